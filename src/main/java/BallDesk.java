@@ -4,7 +4,7 @@ public final class BallDesk {
     public static final int BAD = -1, BELOW = -2, ABOVE = 2, SAME = 3, WITHIN = 4, AROUND = 5, ACROSS = 6;
 
     private static final int DONE = 1;
-    private static final int NO_SUCH_PLACE = -2;
+    private static final int NO_SUCH = -2;
     private static final int PLACES = 12;
     private static final int LEAST_BITS = 16;
     private static final int MOST_BITS = 192;
@@ -273,7 +273,7 @@ public final class BallDesk {
 
     public long limb(int k, int part, int limb) throws IndexOutOfBoundsException {
         if (!isPlace(k) || part < 0 || part > 3) {
-            return NO_SUCH_PLACE;
+            return NO_SUCH;
         }
         Whole x = partOf(places[k], part);
         if (limb == -1) {
@@ -303,7 +303,7 @@ public final class BallDesk {
 
     public int sure(int k) {
         if (!isPlace(k)) {
-            return NO_SUCH_PLACE;
+            return NO_SUCH;
         }
         findEnds(places[k]);
         for (int d = 0; d <= DIGITS_BEHIND; d++) {
@@ -427,8 +427,8 @@ public final class BallDesk {
 
     /**
      * A whole number of any sign. Its row of limbs is made once and used again, since all calls
-     * share one room; the longest number that any call can need (in over, 2^(P + 481) with P 192)
-     * has 22 limbs, and a division lengthens it by one.
+     * share one room. The longest number that any call needs (in over, below 2^(P + 481), P being
+     * 192) has 22 limbs; a longer one is not worked out, so that no index ever leaves the row.
      */
     private static final class Whole {
         static final int ROOM = 24;
