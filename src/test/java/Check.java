@@ -1,4 +1,6 @@
 import java.math.BigInteger;
+import java.util.function.Supplier;
+import java.util.function.ToIntFunction;
 
 /** What every test needs: answers held against what is due, and the numbers of a ball read back. */
 final class Check {
@@ -6,6 +8,23 @@ final class Check {
 
     private int checks;
     private int wrong;
+    private int sentences;
+    private int checksBefore;
+    private String about = "";
+
+    /** Names the document's sentence that the checks behind this call stand for. */
+    void about(String sentence) {
+        leaveSentence();
+        about = sentence + " | ";
+        sentences++;
+        checksBefore = checks;
+    }
+
+    private void leaveSentence() {
+        if (!about.isEmpty() && checks == checksBefore) {
+            tell("has no check");
+        }
+    }
 
     void due(String call, long got, long want) {
         checks++;
@@ -30,6 +49,44 @@ final class Check {
         ball(call, desk, k, BigInteger.valueOf(middle), BigInteger.valueOf(radius));
     }
 
+    /** The call must answer BAD and leave its object as one on which it was not made. */
+    void refused(String call, Supplier<BallDesk> maker, ToIntFunction<BallDesk> asked) {
+        refused(call, maker, asked, BallDesk.BAD);
+    }
+
+    void refused(String call, Supplier<BallDesk> maker, ToIntFunction<BallDesk> asked, int answer) {
+        BallDesk tried = maker.get();
+        due(call, asked.applyAsInt(tried), answer);
+        unchanged(call, tried, maker.get(), -1);
+    }
+
+    /** The call must answer 1, make this ball at place k, and leave the other places alone. */
+    void taken(String call, Supplier<BallDesk> maker, ToIntFunction<BallDesk> asked, int k, BigInteger middle, BigInteger radius) {
+        BallDesk tried = maker.get();
+        due(call, asked.applyAsInt(tried), 1);
+        ball(call, tried, k, middle, radius);
+        unchanged(call, tried, maker.get(), k);
+    }
+
+    void taken(String call, Supplier<BallDesk> maker, ToIntFunction<BallDesk> asked, int k, long middle, long radius) {
+        taken(call, maker, asked, k, BigInteger.valueOf(middle), BigInteger.valueOf(radius));
+    }
+
+    /** All places but one are the same, and so is what a later call makes of them. */
+    void unchanged(String call, BallDesk tried, BallDesk untouched, int but) {
+        for (int k = 0; k < 12; k++) {
+            if (k != but) {
+                ball(call + ", behind it", tried, k, part(untouched, k, MIDDLE), part(untouched, k, RADIUS));
+            }
+        }
+        due(call + ", count(0) behind it", tried.count(0), untouched.count(0));
+        int k = but == 0 ? 1 : 0;
+        tried.set(k, -22, 7);
+        untouched.set(k, -22, 7);
+        due(call + ", sine behind it", tried.sine(k, k, true), untouched.sine(k, k, true));
+        ball(call + ", sine behind it", tried, k, part(untouched, k, MIDDLE), part(untouched, k, RADIUS));
+    }
+
     void noLimb(BallDesk desk, int k, int part, int limb) {
         checks++;
         try {
@@ -45,12 +102,14 @@ final class Check {
     private void tell(String text) {
         wrong++;
         if (wrong <= 40) {
-            System.out.println("  " + text);
+            System.out.println("  " + about + text);
         }
     }
 
     void end(String name) {
-        System.out.println(name + ": " + checks + " checks, " + wrong + " wrong");
+        leaveSentence();
+        String told = sentences == 0 ? "" : sentences + " sentences, ";
+        System.out.println(name + ": " + told + checks + " checks, " + wrong + " wrong");
         if (wrong != 0 || checks == 0) {
             System.exit(1);
         }
