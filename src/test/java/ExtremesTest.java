@@ -1,6 +1,7 @@
 /** Every call on the longest, the widest and the least balls, where a row of limbs would be too short. */
 public final class ExtremesTest {
     private static final long MOST = 1L << 48;
+    private static final int STEPS = 6;
 
     private static final Check check = new Check();
 
@@ -18,7 +19,10 @@ public final class ExtremesTest {
         for (int bits : new int[] {16, 17, 47, 48, 63, 64, 65, 96, 127, 128, 129, 159, 160, 176, 190, 191, 192}) {
             for (int i = 0; i < 10; i++) {
                 for (int j = 0; j < 10; j++) {
-                    new ExtremesTest(bits).pair(i, j);
+                    for (int step = 0; step < STEPS; step++) {
+                        // Each step has an object of its own: reading all balls takes most of its 512 calls.
+                        new ExtremesTest(bits).pair(i, j, step);
+                    }
                 }
             }
         }
@@ -41,23 +45,37 @@ public final class ExtremesTest {
         set(9, -Long.MAX_VALUE, 1L << 15);
     }
 
-    private void pair(int i, int j) {
+    private void pair(int i, int j, int step) {
         prepare();
-        due("add " + i + " " + j, desk.add(10, i, j), oracle.add(10, i, j));
-        due("take " + i + " " + j, desk.take(11, i, j), oracle.take(11, i, j));
+        switch (step) {
+            case 0:
+                due("add " + i + " " + j, desk.add(10, i, j), oracle.add(10, i, j));
+                due("take " + i + " " + j, desk.take(11, i, j), oracle.take(11, i, j));
+                break;
+            case 1:
+                due("times " + i + " " + j, desk.times(10, i, j), oracle.times(10, i, j));
+                due("over " + i + " " + j, desk.over(11, i, j), oracle.over(11, i, j));
+                break;
+            case 2:
+                due("join " + i + " " + j, desk.join(10, i, j), oracle.join(10, i, j));
+                due("root " + i, desk.root(11, i), oracle.root(11, i));
+                break;
+            case 3:
+                due("log " + i, desk.log(10, i), oracle.log(10, i));
+                due("arc " + i, desk.arc(11, i), oracle.arc(11, i));
+                break;
+            case 4:
+                due("exp " + i, desk.exp(10, i), oracle.exp(10, i));
+                due("sine " + i, desk.sine(11, i, j % 2 == 0), oracle.sine(11, i, j % 2 == 0));
+                break;
+            default:
+                ask(i, j);
+                break;
+        }
         same();
-        due("times " + i + " " + j, desk.times(10, i, j), oracle.times(10, i, j));
-        due("over " + i + " " + j, desk.over(11, i, j), oracle.over(11, i, j));
-        same();
-        due("join " + i + " " + j, desk.join(10, i, j), oracle.join(10, i, j));
-        due("root " + i, desk.root(11, i), oracle.root(11, i));
-        same();
-        due("log " + i, desk.log(10, i), oracle.log(10, i));
-        due("arc " + i, desk.arc(11, i), oracle.arc(11, i));
-        same();
-        due("exp " + i, desk.exp(10, i), oracle.exp(10, i));
-        due("sine " + i, desk.sine(11, i, j % 2 == 0), oracle.sine(11, i, j % 2 == 0));
-        same();
+    }
+
+    private void ask(int i, int j) {
         due("lies " + i + " " + j, desk.lies(i, j), oracle.lies(i, j));
         due("sure " + i, desk.sure(i), oracle.sure(i));
         due("digit " + i, desk.digit(i, 60 - j), oracle.digit(i, 60 - j));

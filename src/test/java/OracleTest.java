@@ -1,8 +1,8 @@
 import java.util.Random;
 
-/** Runs of 512 calls, the same ones each time, each answer and each place held against the document's words. */
+/** Runs of 512 calls, the same ones each time, each answer and each ball held against the document's words. */
 public final class OracleTest {
-    private static final int RUNS = 400;
+    private static final int RUNS = 2500;
     private static final int CALLS = 512;
 
     private final Check check = new Check();
@@ -10,6 +10,7 @@ public final class OracleTest {
     private BallDesk desk;
     private Oracle oracle;
     private String name;
+    private int used;
 
     public static void main(String[] args) {
         OracleTest test = new OracleTest();
@@ -25,19 +26,29 @@ public final class OracleTest {
         desk = new BallDesk(bits);
         oracle = new Oracle(bits);
         name = "run " + run + " of " + bits + " bits: ";
-        for (int call = 0; call < CALLS; call++) {
+        used = 0;
+        while (used + mostCallsOfAStep() + callsToReadAll() <= CALLS) {
             if (random.nextInt(3) == 0) {
                 fill();
             } else {
                 act();
             }
-            if (random.nextInt(4) == 0) {
+            if (random.nextInt(8) == 0) {
                 ask();
             }
         }
         for (int k = 0; k < 12; k++) {
-            same("at the end", k);
+            check.ball(name + "at the end", desk, k, oracle.middle[k], oracle.radius[k]);
         }
+    }
+
+    private static int mostCallsOfAStep() {
+        return 3 + 6;
+    }
+
+    /** The middle and the radius of each place: the limbs that one may have, the one that it has not, and the sign. */
+    private int callsToReadAll() {
+        return 12 * 2 * ((oracle.p + 49 + 31) / 32 + 2);
     }
 
     private int place() {
@@ -69,7 +80,7 @@ public final class OracleTest {
             long b = divisor();
             due("set(" + k + ", " + a + ", " + b + ")", desk.set(k, a, b), oracle.set(k, a, b));
         }
-        same("after filling", k);
+        look(k);
     }
 
     private void act() {
@@ -91,7 +102,7 @@ public final class OracleTest {
             case 10: due("join" + args, desk.join(k, i, j), oracle.join(k, i, j)); break;
             default: due("pi" + args, desk.pi(k), oracle.pi(k)); break;
         }
-        same("after acting " + args, k);
+        look(k);
     }
 
     private void ask() {
@@ -109,28 +120,27 @@ public final class OracleTest {
         limb(i, random.nextInt(6) - 1, random.nextInt(13) - 2);
     }
 
+    /** Two limbs of what came of a call; the whole of it is read at the end of the run. */
+    private void look(int k) {
+        for (int n = 0; n < 2; n++) {
+            limb(k, random.nextInt(4), random.nextInt((oracle.p + 49) / 32 + 3) - 1);
+        }
+    }
+
     private void limb(int k, int part, int limb) {
-        String call = "limb(" + k + ", " + part + ", " + limb + ")";
         long want = 0;
         try {
             want = oracle.limb(k, part, limb);
         } catch (IndexOutOfBoundsException e) {
+            used++;
             check.noLimb(desk, k, part, limb);
             return;
         }
-        due(call, desk.limb(k, part, limb), want);
+        due("limb(" + k + ", " + part + ", " + limb + ")", desk.limb(k, part, limb), want);
     }
 
     private void due(String call, long got, long want) {
+        used++;
         check.due(name + call, got, want);
-    }
-
-    private void same(String when, int k) {
-        if (!Oracle.place(k)) {
-            return;
-        }
-        check.ball(name + when, desk, k, oracle.middle[k], oracle.radius[k]);
-        check.due(name + when + ", LOW", Check.part(desk, k, Check.LOW), oracle.low(k));
-        check.due(name + when + ", HIGH", Check.part(desk, k, Check.HIGH), oracle.high(k));
     }
 }
