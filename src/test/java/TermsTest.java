@@ -19,12 +19,15 @@ public final class TermsTest {
         middleNotAboveLimit();
         middleNotAboveLimitByAPart();
         radiusNotAboveLimit();
+        limitOfProducts();
+        limitOfQuotients();
         limitIsForEachAlone();
         radiusNotBelowNothing();
         lowAndHigh();
         standsForAllFromLowToHigh();
         placesAtFirst();
         placesFirstAndLast();
+        greatestRoot();
         rangeOfExp();
         rangeOfLog();
         ends();
@@ -193,6 +196,54 @@ public final class TermsTest {
         }
     }
 
+    private static void limitOfProducts() {
+        check.about("neither above 2^(P + 48): a product");
+        for (int bits = 16; bits <= 192; bits++) {
+            BigInteger limit = BigInteger.ONE.shiftLeft(bits + 48);
+            Supplier<BallDesk> maker = Desks.made(bits, d -> {
+                d.set(0, 1L << 24, 1);
+                d.set(1, -(1L << 24), 1);
+                d.set(2, (1L << 40) + 1, ONE);
+                d.set(3, 1, 1);
+                d.set(4, MOST - 1, 1);
+                d.set(5, 1 - MOST, 1);
+                d.join(6, 4, 5);
+                d.set(4, MOST, 1);
+                d.set(5, -MOST, 1);
+                d.join(7, 4, 5);
+            });
+            check.taken(bits + " bits: middle up to it", maker, d -> d.times(8, 0, 0), 8, limit, BigInteger.ONE);
+            check.taken(bits + " bits: middle down to it", maker, d -> d.times(8, 0, 1), 8, limit.negate(), BigInteger.ONE);
+            check.refused(bits + " bits: middle above it", maker, d -> d.times(8, 0, 2));
+            check.refused(bits + " bits: middle below it", maker, d -> d.times(8, 2, 1));
+            BigInteger before = limit.subtract(BigInteger.ONE.shiftLeft(bits)).add(BigInteger.ONE);
+            check.taken(bits + " bits: radius before it", maker, d -> d.times(8, 6, 3), 8, ZERO, before);
+            check.refused(bits + " bits: radius a part above it", maker, d -> d.times(8, 7, 3));
+        }
+    }
+
+    private static void limitOfQuotients() {
+        check.about("neither above 2^(P + 48): a quotient");
+        for (int bits = 16; bits <= 192; bits++) {
+            BigInteger limit = BigInteger.ONE.shiftLeft(bits + 48);
+            Supplier<BallDesk> maker = Desks.made(bits, d -> {
+                d.set(0, MOST, 1);
+                d.set(1, -MOST, 1);
+                d.set(2, 1, 1);
+                d.set(3, ONE - 1, ONE);
+                d.set(4, -1, 1);
+                d.join(5, 0, 1);
+                d.set(6, ONE + 1, ONE);
+            });
+            check.taken(bits + " bits: middle up to it", maker, d -> d.over(8, 0, 2), 8, limit, BigInteger.ONE);
+            check.taken(bits + " bits: middle down to it", maker, d -> d.over(8, 0, 4), 8, limit.negate(), BigInteger.ONE);
+            check.refused(bits + " bits: middle above it", maker, d -> d.over(8, 0, 3));
+            check.refused(bits + " bits: middle below it", maker, d -> d.over(8, 1, 3));
+            check.refused(bits + " bits: radius a part above it", maker, d -> d.over(8, 5, 2));
+            check.due(bits + " bits: radius before it", maker.get().over(8, 5, 6), 1);
+        }
+    }
+
     private static void limitIsForEachAlone() {
         check.about("neither above 2^(P + 48): each alone; LOW and HIGH may be");
         Supplier<BallDesk> maker = Desks.made(d -> {
@@ -270,6 +321,28 @@ public final class TermsTest {
         }
         for (int k : Desks.NO_PLACES) {
             check.refused("set(" + k + ", 1, 1)", () -> Desks.filled(16), d -> d.set(k, 1, 1));
+        }
+    }
+
+    private static void greatestRoot() {
+        check.about("ROOT(v): the greatest number whose square is at most v");
+        for (int bits = 16; bits <= 192; bits++) {
+            Supplier<BallDesk> maker = Desks.made(bits, d -> {
+                d.set(0, 9, 4);
+                d.set(1, 9, 4);
+                d.widen(1, 1);
+                d.set(2, 2, 1);
+                d.set(3, 0, 1);
+            });
+            BigInteger root = Desks.big(3).shiftLeft(bits - 1);
+            check.taken(bits + " bits: of a square", maker, d -> d.root(5, 0), 5, root, BigInteger.ONE);
+            BigInteger two = BigInteger.TWO.shiftLeft(2 * bits).sqrt();
+            check.taken(bits + " bits: of 2", maker, d -> d.root(5, 2), 5, two, BigInteger.ONE);
+            check.taken(bits + " bits: of 0", maker, d -> d.root(5, 3), 5, ZERO, BigInteger.ONE);
+            BallDesk desk = maker.get();
+            desk.root(5, 1);
+            check.due(bits + " bits: a part below a square", Check.part(desk, 5, Check.LOW), root.subtract(BigInteger.ONE));
+            check.due(bits + " bits: a part above a square", Check.part(desk, 5, Check.HIGH), root.add(BigInteger.ONE));
         }
     }
 
