@@ -30,6 +30,7 @@ public final class LanguageTest {
     public static void main(String[] args) throws IOException, ReflectiveOperationException {
         face();
         nested();
+        sizes();
         words(Files.readString(Path.of("src/main/java/BallDesk.java")));
         check.end("LanguageTest");
     }
@@ -90,6 +91,42 @@ public final class LanguageTest {
                 check.due("static state: " + field, free ? 1 : 0, 0);
             }
         }
+    }
+
+    private static void sizes() throws IOException {
+        Class<?>[] inside = BallDesk.class.getDeclaredClasses();
+        atMost("classes", inside.length + 1, 12);
+        sizes(BallDesk.class);
+        for (Class<?> nested : inside) {
+            sizes(nested);
+        }
+        methodLengths(Files.readAllLines(Path.of("src/main/java/BallDesk.java")));
+    }
+
+    private static void sizes(Class<?> type) {
+        int fields = 0;
+        for (Field field : type.getDeclaredFields()) {
+            fields += Modifier.isStatic(field.getModifiers()) ? 0 : 1;
+        }
+        atMost("fields of " + type, fields, 20);
+        for (Method method : type.getDeclaredMethods()) {
+            atMost("parameters of " + method, method.getParameterCount(), 7);
+        }
+    }
+
+    /** A method's last line is as far in as its first. */
+    private static void methodLengths(List<String> lines) {
+        for (int n = 0; n < lines.size(); n++) {
+            Matcher first = Pattern.compile("( +)[\\w ]*\\w\\([^;=]*\\)[\\w ]* \\{").matcher(lines.get(n));
+            if (first.matches() && first.group(1).length() <= 8) {
+                int length = lines.subList(n, lines.size()).indexOf(first.group(1) + "}") + 1;
+                atMost("lines of" + lines.get(n), length, 60);
+            }
+        }
+    }
+
+    private static void atMost(String what, int got, int most) {
+        check.due(what + ", " + got + ", at most " + most, got <= most ? 1 : 0, 1);
     }
 
     private static void words(String source) {

@@ -6,7 +6,7 @@ public final class RoomTest {
     private static final Check check = new Check();
     private static final ThreadMXBean THREADS = (ThreadMXBean) ManagementFactory.getThreadMXBean();
 
-    public static void main(String[] args) {
+    public static void main(String[] args) throws IllegalAccessException {
         BallDesk first = new BallDesk(192);
         work(first);
         long start = made();
@@ -16,6 +16,9 @@ public final class RoomTest {
         long worked = made();
         check.due("bytes of an object, " + (built - start) + ", at most 20000", built - start <= 20000 ? 1 : 0, 1);
         check.due("bytes that 500 calls make, " + (worked - built) + ", at most 1000", worked - built <= 1000 ? 1 : 0, 1);
+        Room room = new Room(desk);
+        check.due("objects and arrays, " + room.objects() + ", at most 120", room.objects() <= 120 ? 1 : 0, 1);
+        check.due("fields and elements, " + room.elements() + ", at most 1500", room.elements() <= 1500 ? 1 : 0, 1);
         check.end("RoomTest");
     }
 
